@@ -1658,8 +1658,8 @@ public final class SheetByTwo {
         }
 
         private int nextOf(int place, int move) {
-            int next = nexts[place * MOVES + move];
-            return next < size ? next : NONE;
+            int at = place * MOVES + move;
+            return at >= 0 && at < nexts.length ? nexts[at] : NONE;
         }
 
         int leastSeconds(Linen told) {

@@ -211,12 +211,20 @@ public final class PromisesTest {
         tell(x, BASE);
         due(5, "fault(0) behind a good one", x.fault(0), 0);
         due(5, "fault(1) behind a good one", x.fault(1), NONE);
+        feedText(x, "linen long 48");
+        x.end(12);
+        due(5, "cut within a number", x.linen(), -4);
+        due(5, "the end's place", x.fault(1), 12);
+        feedText(x, BASE + "x");
+        x.end(42);
+        due(5, "cut behind the sign", x.linen(), 1);
         faultOf("", 0, NONE);
         faultOf("linen", 1, 5);
         faultOf(BASE.substring(0, 41), 1, 41);
         faultOf(BASE.substring(0, 41) + " \n", 1, 43);
         faultOf("Linen", 1, 0);
         faultOf("linens", 1, 0);
+        faultOf("linenz", 1, 0);
         faultOf(";", 1, 0);
         faultOf(" 5", 1, 1);
         faultOf("press 5;" + BASE, 1, 0);
@@ -247,6 +255,8 @@ public final class PromisesTest {
         faultOf(BASE + "wish long 1 wide 1 either either", 1, 68);
         faultOf(BASE + "wish long 1 wide 1 either any any", 1, 72);
         faultOf(BASE + "slips her 50 his 51", 2, 59);
+        faultOf(BASE + "slips her 51", 2, 52);
+        faultOf(BASE + "slips her 0 his 0;", 0, NONE);
         faultOf(BASE + "slips his", 1, 48);
         faultOf(BASE + "pair 100", 2, 47);
         faultOf(BASE + "pair 99 learns 1000", 2, 57);
@@ -537,6 +547,10 @@ public final class PromisesTest {
         x = told(BASE + "wish long 5 wide 5 either any;");
         due(18, "no way", x.quickest(), NONE);
         due(19, "no way", x.quick(0), NONE);
+        x = told(BASE + "wish long 6 wide 3 back bottom;");
+        due(18, "TOP", x.quickest(), 5);
+        due(19, "TOP", x.quick(0), 0);
+        due(18, "as it is, without room", told(sheet(6, 6, 5) + "wish long 6 wide 6 front top;").quickest(), 0);
         due(18, "no wish", told(BASE).quickest(), -2);
         due(19, "no wish", told(BASE).quick(0), -2);
     }
@@ -564,6 +578,10 @@ public final class PromisesTest {
         x = told("linen long 6 wide 5 thick 1 room 1 arms 1;wish long 5 wide 6 front right;");
         due(20, "QUARTER, whatever the room", x.alone(), 1);
         due(21, "QUARTER", x.rail(0), 8);
+        x = told("linen long 6 wide 4 thick 1 room 60 arms 6;wish long 6 wide 2 either any;");
+        due(20, "arms 6", x.alone(), 1);
+        tell(x, "linen long 6 wide 4 thick 1 room 60 arms 5;wish long 6 wide 2 either any;");
+        due(20, "arms 5: QUARTER, HERS, QUARTER", x.alone(), 3);
         due(20, "no wish", told(BASE).alone(), -2);
         due(21, "no wish", told(BASE).rail(0), -2);
     }
@@ -617,7 +635,11 @@ public final class PromisesTest {
         due(26, "2 by 1, room 1", told(sheet(2, 1, 1)).parcels(), 3);
         due(26, "2 by 2, room 1", told(sheet(2, 2, 1)).parcels(), 1);
         due(26, "3 by 1", told(sheet(3, 1, 3)).parcels(), 3);
-        due(26, "36 by 48, the most", told(sheet(36, 48, 60)).parcels(), 144);
+        x = told(sheet(36, 48, 60));
+        due(26, "36 by 48, the most", x.parcels(), 144);
+        due(27, "its STATES", x.reach(20), 612);
+        folds(x, 3, 3, 2, 0, 0, 0);
+        due(26, "9 by 2 then: 9, 3, 1 and 2, 1, and so turned", x.parcels(), 11);
         x = told(sheet(2, 1, 9));
         folds(x, 3);
         due(26, "from now on", x.parcels(), 1);
@@ -647,6 +669,9 @@ public final class PromisesTest {
         due(29, "ways(0)", x.ways(0), 1);
         due(29, "ways(1)", x.ways(1), 0);
         due(29, "ways(2)", x.ways(2), 2);
+        due(29, "ways(4)", x.ways(4), 11);
+        due(29, "ways(12)", x.ways(12), 66431);
+        due(29, "ways(0) without room", told(sheet(2, 2, 1)).ways(0), 1);
         due(29, "ways(-1)", x.ways(-1), -2);
         due(29, "ways(13)", x.ways(13), -2);
         due(30, "how(2, 0)", x.how(2, 0), 6);
@@ -673,6 +698,10 @@ public final class PromisesTest {
         due(29, "HIS twice, or the FACE changed twice", x.ways(2), 5);
         due(30, "HERS", x.how(2, 0), 3);
         due(30, "HERS again", x.how(2, 1), 3);
+        x = told(sheet(4, 4, 9));
+        folds(x, 7, 8);
+        due(30, "ROUND first", x.how(2, 0), 7);
+        due(30, "QUARTER then", x.how(2, 1), 8);
         x = told(sheet(48, 48, 60));
         for (int first = 0; first < 9; first++) {
             x.anew();
@@ -712,6 +741,11 @@ public final class PromisesTest {
             + "wish long 1 wide 4 front any;");
         due(32, "back and back again", x.called(), 2);
         due(33, "BOTH alone does", x.words(1), 1);
+        x = told(sheet(4, 4, 9) + "call her walk his walk;call her top his top;wish long 2 wide 2 either any;");
+        due(32, "the first CALL counts", x.called(), 2);
+        due(33, "all of them", x.words(0), 2);
+        due(33, "all of them", x.words(1), 3);
+        due(35, "none doubled", x.doubled(), 0);
         x = told(sheet(4, 4, 3) + "call her walk his walk;wish long 2 wide 4 either any;");
         due(32, "no room", x.called(), NONE);
         x = told(BASE + "call her top his top;call her top his bottom;call her stay his stay;call her top his bottom;"
@@ -722,6 +756,7 @@ public final class PromisesTest {
         due(35, "doubled", x.doubled(), 8 + 32);
         due(34, "no CALLS", told(BASE).alike(), 0);
         due(35, "no CALLS", told(BASE).doubled(), 0);
+        due(35, "one CALL", told(BASE + "call her top his top;").doubled(), 0);
         due(34, "no LINEN", new SheetByTwo().alike(), -2);
         due(35, "no LINEN", new SheetByTwo().doubled(), -2);
     }
@@ -846,6 +881,9 @@ public final class PromisesTest {
         fill(x, 1, 3, 39, 3, 1L << 40, 38, 0, 2);
         due(42, "38 and 2, or 39", x.packs(1, 0), 40);
         due(42, "0, 2 and 3", x.packs(1, 1), 3);
+        fill(x, 2, 2, 40, 41);
+        due(42, "all of the press", x.packs(2, 0), 40);
+        due(42, "all of the press", x.packs(2, 1), 1);
         fill(x, 2, 2, 41, 1000);
         due(42, "too thick", x.packs(2, 0), 0);
         due(42, "too thick", x.packs(2, 1), 0);
@@ -931,6 +969,12 @@ public final class PromisesTest {
         due(48, "given(2)", x.given(2), 1);
         due(48, "given(4)", x.given(4), 2);
         due(48, "given(5)", x.given(5), 2);
+        x = told(BASE + "pair 9 learns 9;pair 9 learns 9;pair 9 learns 9;pair 9 learns 9;pile 7;pile 7;pile 7;pile 7;pile 7;");
+        due(47, "five of four", x.friday(), x.learn(0, 14));
+        due(48, "given(4)", x.given(4), 2);
+        due(49, "a fifth PAIR helps", x.helps(0), x.learn(0, 14) - x.learn(0, 7));
+        x = told(BASE + "pair 9 learns 999;pile 60;pile 60;pile 60;pile 60;pile 60;pile 60;");
+        due(47, "all of one", x.friday(), x.learn(0, 360));
         x = told(BASE + "pile 4;");
         due(47, "a PILE without PAIR", x.friday(), NONE);
         due(48, "a PILE without PAIR", x.given(0), NONE);
@@ -984,6 +1028,12 @@ public final class PromisesTest {
         due(50, "from now on: SECONDS", x.drawn(1, 0, 7), 9);
         due(50, "from now on: FACE", x.drawn(1, 0, 3), 0);
         due(50, "the work stays", x.count(6), 1);
+        SheetByTwo y = told(BASE + "call her bottom his bottom;slips her 8 his 17;");
+        fill(y, 0, 0, 0);
+        due(51, "a draw as high as slips is none", y.slipped(2, 0), 0);
+        due(50, "BOTTOM: FACE", y.drawn(2, 0, 3), 0);
+        due(50, "BOTTOM: WIDE", y.drawn(2, 0, 1), 3);
+        due(50, "hers slips: a TWIST more", y.drawn(0, 0, 4), 1);
         due(50, "seed 2,000,000,001", x.drawn(2_000_000_001, 0, 0), -100);
         due(50, "seed -1", x.drawn(-1, 0, 0), -100);
         due(50, "seed 2,000,000,000 draws 4", x.drawn(2_000_000_000, 0, 4), -1);
@@ -1149,6 +1199,9 @@ public final class PromisesTest {
         fill(x, 0, 1, 1, 2, 4, 8, 16);
         due(58, "to its own, ahead", x.paste(0, 1, 0, 0, 4), 0);
         due(58, "2, 4, 8, 16, 16", x.packs(0, 0), 46);
+        x.row(2, 1, 5);
+        due(58, "a whole row", x.paste(0, 0, 2, 0, 5), 0);
+        due(58, "a whole row", x.packs(2, 0), 46);
         fill(x, 3, 0, 0, 6, 9);
         fill(x, 1, 0, 1, 1, 1);
         x.paste(3, 1, 1, 0, 1);
