@@ -215,6 +215,13 @@ public final class PromisesTest {
         x.end(12);
         due(5, "cut within a number", x.linen(), -4);
         due(5, "the end's place", x.fault(1), 12);
+        feedText(x, "linen    ");
+        x.end(5);
+        due(5, "cut ahead of blanks", x.linen(), -4);
+        due(5, "the end's place", x.fault(1), 5);
+        feedText(x, " ".repeat(995) + "linen");
+        due(5, "a full TAPE", x.linen(), -4);
+        due(5, "its end's place", x.fault(1), 1000);
         feedText(x, BASE + "x");
         x.end(42);
         due(5, "cut behind the sign", x.linen(), 1);
