@@ -456,15 +456,16 @@ public final class SheetByTwo {
         if (work.isNone() || !isSlot(slot) || !isPart(what)) {
             return NO_SUCH;
         }
-        if (work.told.press == 0) {
-            return NONE;
-        }
         Row row = rows[slot];
         if (!row.held) {
             return HAS_NOTHING;
         }
         if (row.hasBelowZero()) {
             return NO_SUCH;
+        }
+        // What can't be asked comes ahead of NONE.
+        if (work.told.press == 0) {
+            return NONE;
         }
         return what == 0 ? pressing.highest(row, work.told.press) : pressing.mostOf(row, work.told.press);
     }

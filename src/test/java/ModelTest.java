@@ -1179,17 +1179,19 @@ public final class ModelTest {
             if (told == null || slot < 0 || slot > 3 || what < 0 || what > 1) {
                 return -2;
             }
-            if (told.press == 0) {
-                return -1;
-            }
             if (rows[slot] == null) {
                 return -6;
             }
-            TreeMap<Long, Integer> most = new TreeMap<>(Map.of(0L, 0));
             for (long v : rows[slot]) {
                 if (v < 0) {
                     return -2;
                 }
+            }
+            if (told.press == 0) {
+                return -1;
+            }
+            TreeMap<Long, Integer> most = new TreeMap<>(Map.of(0L, 0));
+            for (long v : rows[slot]) {
                 for (Map.Entry<Long, Integer> e : new TreeMap<>(most).entrySet()) {
                     if (v <= told.press - e.getKey()) {
                         most.merge(e.getKey() + v, e.getValue() + 1, Math::max);
