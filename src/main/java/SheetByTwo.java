@@ -48,6 +48,7 @@ public final class SheetByTwo {
     private static final int IMAGES = 3;
     private static final int HIGHEST_SEED = 2_000_000_000;
     private static final int HUNDRED = 100;
+    private static final int HIGHEST = 2_147_483_647;
 
     private final Tape tape = new Tape();
     private final Work work = new Work();
@@ -279,7 +280,7 @@ public final class SheetByTwo {
         if (!hasWish()) {
             return NO_SUCH;
         }
-        return fewestIn(ROOMS) == NONE ? NONE : leastRoomFor(Integer.MAX_VALUE);
+        return fewestIn(ROOMS) == NONE ? NONE : leastRoomFor(HIGHEST);
     }
 
     /** Promise 24. */
@@ -510,7 +511,7 @@ public final class SheetByTwo {
             return NO_SUCH;
         }
         int first = NONE;
-        int least = Integer.MAX_VALUE;
+        int least = HIGHEST;
         for (int pair = 0; pair < work.told.pairs; pair++) {
             int seconds = work.told.secondsForSheets(pair, n);
             if (seconds < least) {
@@ -1866,7 +1867,7 @@ public final class SheetByTwo {
                 pairs++;
             }
             Arrays.fill(loads, 0);
-            least = Integer.MAX_VALUE;
+            least = HIGHEST;
             share(told, 0, 0);
             return least;
         }

@@ -32,7 +32,7 @@ public final class LanguageTest {
 
     private static final Set<String> LIBRARY = Set.of(
         "Arrays.fill", "System.arraycopy", "Math.max", "Math.min", "Math.abs", "Integer.bitCount",
-        "Integer.MAX_VALUE", "words.length", "words.charAt");
+        "words.length", "words.charAt");
 
     private static int wrong = 0;
 
