@@ -184,6 +184,36 @@ public final class FoldEdgesTest extends Sentences {
         tell(x, BASE + "call her top his stay;");
         due("its slips are not left", x.right(0, 1), 1);
         due("its SECONDS are not left", x.fold(0), 5);
+        String more = ALL + "third takes 9;meet takes 9;turn takes 9;quarter takes 9;untwist takes 9;call her stay his top;";
+        for (String text : new String[] {more, more + "#", more + BASE, more + "pile 61;"}) {
+            x = new SheetByTwo();
+            for (int times = 0; times < 3; times++) {
+                tell(x, text);
+            }
+            for (int times = 0; times < 3; times++) {
+                nothingLeft(x);
+            }
+        }
+    }
+
+    /** Tells a LINEN of few words: nothing of one ahead of it, be it whole or not, is in it. */
+    private static void nothingLeft(SheetByTwo x) {
+        due("another", tell(x, BASE + TWISTS + "call her stay his top;"), 4);
+        int[] counts = {3, 0, 0, 6, 6, 0, 0, 0, 4, 0, 0};
+        for (int what = 0; what < counts.length; what++) {
+            due("nothing is left: count(" + what + ")", x.count(what), counts[what]);
+        }
+        due("her slips", x.right(0, 1), 1);
+        due("his slips", x.right(2, 1), 1);
+        due("a wish", x.fewest(), -2);
+        due("a PAIR", x.learn(0, 1), -2);
+        due("a PILE", x.given(0), -2);
+        for (int move = 0; move < 9; move++) {
+            due("SECONDS of MOVE " + move, x.fold(move), 5);
+            x.undo();
+        }
+        x.call(0);
+        due("SECONDS of UNTWIST", x.fold(9), 5);
     }
 
     private static void linenLines() {

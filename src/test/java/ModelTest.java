@@ -52,7 +52,7 @@ public final class ModelTest {
             if (random.nextInt(10) > 0) {
                 tell(Texts.linen(random));
             }
-            while (calls < 500 && !failed) {
+            while (calls < 450 && !failed) {
                 one();
             }
         }

@@ -259,6 +259,17 @@ public final class ReckonEdgesTest extends Sentences {
         packsIs("sixty that go in", 999, 960, 60, sixty(16));
         packsIs("sixty, none of which does", 999, 0, 0, sixty(1000));
         packsIs("nothing thick", 5, 0, 60, sixty(0));
+        SheetByTwo x = told(BASE + "press 10;");
+        fill(x, 0, 0, 9, 1, 3, 5, 7);
+        fill(x, 1, 0, 8, 4);
+        fill(x, 2, 0);
+        for (int times = 0; times < 2; times++) {
+            due("a full press", x.packs(0, 0), 10);
+            due("another row behind it", x.packs(1, 0), 8);
+            due("none behind it", x.packs(2, 0), 0);
+            due("one of two", x.packs(1, 1), 1);
+            due("three of five", x.packs(0, 1), 3);
+        }
     }
 
     private static void packsMany() {

@@ -91,7 +91,14 @@ public final class RowEdgesTest extends Sentences {
             due("back(" + k + ")", x.back(k), 0);
             stays("behind back(" + k + ")", x, before);
         }
-        SheetByTwo x = told(ALL);
+        SheetByTwo x = told(sheet(6, 6, 6) + "wish long 6 wide 6 back right;");
+        x.image(0);
+        tell(x, sheet(6, 6, 6) + "wish long 6 wide 6 front left;");
+        x.back(0);
+        due("the wish's FACE and HEM", x.fewest(), 2);
+        folds(x, 8, 6);
+        due("back and right", x.fewest(), 0);
+        x = told(ALL);
         folds(x, 6);
         x.image(0);
         folds(x, 7, 8);

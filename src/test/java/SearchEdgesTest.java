@@ -368,6 +368,14 @@ public final class SearchEdgesTest extends Sentences {
             }
         }
         x = told(sheet(48, 48, 48));
+        for (int move = 0; move < 9; move++) {
+            due("ways(0)", x.ways(0), 1);
+            folds(x, move);
+            due("ways(1) of MOVE " + move, x.ways(1), move == 3 || move == 5 ? 2 : 1);
+            due("how(1, 0) of MOVE " + move, x.how(1, 0), move == 5 ? 3 : move);
+            due("ways(0) of MOVE " + move, x.ways(0), 0);
+            x.undo();
+        }
         due("ways(0)", x.ways(0), 1);
         folds(x, 0, 0, 0, 0, 2, 3, 4, 5, 3, 8, 2, 7);
         due("a row of twelve: more than one", x.ways(12) > 1 ? 1 : 0, 1);

@@ -37,6 +37,7 @@ public final class TermsTest extends Sentences {
         evenWide();
         wideByThree();
         evenLong();
+        hems();
         turns();
         quarters();
         untwists();
@@ -314,6 +315,7 @@ public final class TermsTest extends Sentences {
                 bad("linen" + sign + " long", 1, letter ? 0 : 5);
             }
         }
+        signs();
         good("linen long6wide6thick1room6arms6;press5;pair1learns0;", 3);
         good("\n\nlinen\nlong\n6\nwide 6 thick  1 room 6 arms 6 ;  \n", 1);
         bad("linenlong 6", 1, 0);
@@ -322,6 +324,33 @@ public final class TermsTest extends Sentences {
         bad("linen long 6wide6thick1room6 0arms6;", 1, 29);
         bad("Linen", 1, 0);
         bad("linen Long", 1, 6);
+    }
+
+    /** Each byte in the place of the sign, behind the number 6 and behind a word. */
+    private static void signs() {
+        String number = BASE.substring(0, 41);
+        String word = BASE + "call her top his top";
+        for (int b = 0; b < 256; b++) {
+            char sign = (char) b;
+            boolean letter = b >= 97 && b <= 122;
+            boolean digit = b >= 48 && b <= 57;
+            if (sign == ';') {
+                good(number + sign, 1);
+                good(word + sign, 2);
+            } else if (b == 32 || b == 10) {
+                bad(number + sign, 1, 42);
+                bad(word + sign, 1, word.length() + 1);
+            } else {
+                boolean above = digit && b > 48;
+                bad(number + sign, above ? 2 : 1, above ? 40 : digit ? 42 : 41);
+                bad(word + sign, 1, letter ? word.length() - 3 : word.length());
+                if (digit && !above) {
+                    good(number + sign + ";", 1);
+                } else {
+                    bad(number + sign + ";", above ? 2 : 1, above ? 40 : 41);
+                }
+            }
+        }
     }
 
     private static void faultsFirst() {
@@ -583,6 +612,34 @@ public final class TermsTest extends Sentences {
         }
     }
 
+    /** What a MOVE makes of each HEM (top, bottom, left, right, in) and each FACE. */
+    private static void hems(int move, boolean changes, String sentence, int... hems) {
+        saidInTerms(sentence);
+        int[][] rows = {{}, {7}, {7, 8}, {8}, {2, 6}, {6, 7}, {6}, {7, 8, 6}, {8, 6}, {2}};
+        for (int i = 0; i < 10; i++) {
+            SheetByTwo x = told(sheet(36, 36, 60));
+            folds(x, rows[i]);
+            due("HEM " + i % 5, x.state(2), i % 5);
+            due("FACE " + i / 5, x.state(3), i / 5);
+            folds(x, move);
+            due("MOVE " + move + ", HEM " + i % 5 + ", FACE " + i / 5 + ": HEM then", x.state(2), hems[i % 5]);
+            due("MOVE " + move + ", HEM " + i % 5 + ", FACE " + i / 5 + ": FACE then", x.state(3), changes ? 1 - i / 5 : i / 5);
+            due("TWIST", x.state(4), 0);
+        }
+    }
+
+    private static void hems() {
+        hems(0, true, "HEM top becomes bottom, FACE changes.", 1, 1, 2, 3, 4);
+        hems(1, false, "HEM bottom becomes top.", 0, 0, 2, 3, 4);
+        hems(2, true, "HEM top, bottom become in, FACE changes.", 4, 4, 2, 3, 4);
+        hems(3, true, "HEM left becomes right, FACE changes.", 0, 1, 3, 3, 4);
+        hems(4, false, "HEM right becomes left.", 0, 1, 2, 2, 4);
+        hems(5, true, "HEM left, right become in, FACE changes.", 0, 1, 4, 4, 4);
+        hems(6, true, "TURN: FACE changes, HEM top, bottom change.", 1, 0, 2, 3, 4);
+        hems(7, false, "ROUND: HEM top and bottom, left and right change.", 1, 0, 3, 2, 4);
+        hems(8, false, "HEM top becomes right, right bottom, bottom left, left top.", 3, 2, 0, 1, 4);
+    }
+
     private static void hemsFrom(String name, int[] ahead, int move, int... hems) {
         SheetByTwo x = told(sheet(8, 8, 60));
         folds(x, ahead);
@@ -754,6 +811,12 @@ public final class TermsTest extends Sentences {
         due("quickest is not", x.quick(0), 8);
         due("TOP", x.quick(1), 0);
         due("QUARTER", x.quick(2), 8);
+        x = told(sheet(4, 4, 4) + "wish long 4 wide 4 front left;turn takes 99;quarter takes 30;");
+        due("three QUARTERS", x.quickest(), 90);
+        for (int i = 0; i < 3; i++) {
+            due("QUARTER " + i, x.quick(i), 8);
+        }
+        due("fewest is ROUND, QUARTER", x.fewest(), 2);
     }
 
     private static void byMyself() {
